@@ -12,8 +12,6 @@ public final class QueuePlaces {
     private static final int MOST_WISHED = 3, MOST_BOUGHT = 2, MOST_PAIRS = 8, MOST_GOT = 9;
     private static final int MOST_LOTS = 20, SHARES = 12;
 
-    /** People are numbers of three bits: rows by people are this long, so that no such number is beyond them. */
-    private static final int BY_PEOPLE = 8;
     /** So many orders of six there are. */
     private static final int ALL_ORDERS = 720;
 
@@ -195,7 +193,7 @@ public final class QueuePlaces {
         if (!line.crowd.has(i) || kind <= PERSON || kind > ORPHAN) {
             return BAD;
         }
-        if (!line.crowd.isOf(i, kind)) {
+        if (!Crowd.isKindOf(line.crowd.kindOf(i), kind)) {
             return found(UNLIKE);
         }
         line.serve(line.order);
@@ -310,7 +308,7 @@ public final class QueuePlaces {
         if (!line.crowd.has(i) || !line.crowd.has(place)) {
             return BAD;
         }
-        return line.crowd.want(i, place == line.crowd.size - 1);
+        return Crowd.wantOf(line.crowd.kindOf(i), place == line.crowd.size - 1);
     }
 
     public int gets(int i, int place) {
@@ -774,8 +772,8 @@ public final class QueuePlaces {
     private static final class Crowd {
         int size;
         int loaves;
-        private final int[] kinds = new int[BY_PEOPLE];
-        private final int[] patience = new int[BY_PEOPLE];
+        private final int[] kinds = new int[MOST_PEOPLE];
+        private final int[] patience = new int[MOST_PEOPLE];
 
         /** Whether there is such a one: places of the line have the same numbers. */
         boolean has(int i) {
@@ -788,9 +786,9 @@ public final class QueuePlaces {
         }
 
         void add(int kind, int ownPatience) {
-            if (size < MOST_PEOPLE) {
-                kinds[size & 7] = kind;
-                patience[size & 7] = ownPatience;
+            if (size >= 0 && size < kinds.length && size < patience.length) {
+                kinds[size] = kind;
+                patience[size] = ownPatience;
                 size++;
             }
         }
@@ -804,30 +802,29 @@ public final class QueuePlaces {
         }
 
         int kindOf(int i) {
-            return kinds[i & 7];
+            return i >= 0 && i < kinds.length ? kinds[i] : PERSON;
         }
 
         int patienceOf(int i) {
-            return patience[i & 7];
+            return i >= 0 && i < patience.length ? patience[i] : 0;
         }
 
-        boolean isOf(int i, int kind) {
-            int own = kindOf(i);
+        static boolean isKindOf(int own, int kind) {
             return own == kind || own == GENERAL && kind == SOLDIER || own == ORPHAN && kind == CHILD;
         }
 
         int howMany(int kind) {
             int number = 0;
             for (int i = 0; i < size; i++) {
-                if (isOf(i, kind)) {
+                if (isKindOf(kindOf(i), kind)) {
                     number++;
                 }
             }
             return number;
         }
 
-        int want(int i, boolean isLast) {
-            switch (kindOf(i)) {
+        static int wantOf(int kind, boolean isLast) {
+            switch (kind) {
                 case CHILD:
                     return 0;
                 case UMBRELLA:
@@ -1004,10 +1001,10 @@ public final class QueuePlaces {
         private int loaves;
         private int left;
         private int served;
-        private final int[] wanted = new int[BY_PEOPLE];
-        private final int[] gained = new int[BY_PEOPLE];
-        private final int[] turns = new int[BY_PEOPLE];
-        private final int[] leftThen = new int[BY_PEOPLE];
+        private final int[] wanted = new int[MOST_PEOPLE];
+        private final int[] gained = new int[MOST_PEOPLE];
+        private final int[] turns = new int[MOST_PEOPLE];
+        private final int[] leftThen = new int[MOST_PEOPLE];
 
         Serving(Crowd crowd) {
             this.crowd = crowd;
@@ -1022,21 +1019,24 @@ public final class QueuePlaces {
             for (int round = 0; round < 2; round++) {
                 for (int place = 0; place < size; place++) {
                     int i = Order.whoAt(order, place);
-                    if (crowd.isOf(i, SOLDIER) == (round == 0)) {
-                        serveOne(i, place == size - 1);
+                    int kind = crowd.kindOf(i);
+                    if (Crowd.isKindOf(kind, SOLDIER) == (round == 0)) {
+                        serveOne(i, Crowd.wantOf(kind, place == size - 1));
                     }
                 }
             }
         }
 
-        private void serveOne(int i, boolean isLast) {
-            int want = crowd.want(i, isLast);
+        private void serveOne(int i, int want) {
+            if (i < 0 || i >= MOST_PEOPLE) {
+                return;
+            }
             boolean away = served > crowd.patienceOf(i);
             int gain = away ? 0 : Math.min(want, left);
-            wanted[i & 7] = want;
-            gained[i & 7] = gain;
-            turns[i & 7] = served;
-            leftThen[i & 7] = left;
+            wanted[i] = want;
+            gained[i] = gain;
+            turns[i] = served;
+            leftThen[i] = left;
             if (away) {
                 turnedAway |= 1 << i;
             }
@@ -1048,21 +1048,21 @@ public final class QueuePlaces {
         }
 
         int wantOf(int i) {
-            return wanted[i & 7];
+            return i >= 0 && i < wanted.length ? wanted[i] : 0;
         }
 
         int gainOf(int i) {
-            return gained[i & 7];
+            return i >= 0 && i < gained.length ? gained[i] : 0;
         }
 
         /** Behind how many one is served. */
         int turnOf(int i) {
-            return turns[i & 7];
+            return i >= 0 && i < turns.length ? turns[i] : 0;
         }
 
         /** How many loaves are left as one's turn comes. */
         int leftFor(int i) {
-            return leftThen[i & 7];
+            return i >= 0 && i < leftThen.length ? leftThen[i] : 0;
         }
 
         int leftInTheEnd() {
@@ -1247,7 +1247,7 @@ public final class QueuePlaces {
 
         /** How many tickets, or NONE; step() then tells them. */
         int fewest(int a, int b, int c) {
-            for (int rank = 0; rank < ALL_ORDERS; rank++) {
+            for (int rank = 0; rank < seen.length; rank++) {
                 seen[rank] = false;
             }
             reached = 0;
@@ -1306,13 +1306,14 @@ public final class QueuePlaces {
     /** All orders by which people got what they are known to have got. */
     private static final class Orders {
         private static final int UNKNOWN = -1, NEVER = -2;
+        /** One gets 0 to 3 loaves. */
         private static final int BY_GAIN = 4;
 
         int total;
         private final Line line;
-        private final int[] known = new int[BY_PEOPLE];
-        private final int[] possible = new int[BY_PEOPLE];
-        private final int[] parts = new int[BY_PEOPLE * BY_GAIN];
+        private final int[] known = new int[MOST_PEOPLE];
+        private final int[] possible = new int[MOST_PEOPLE];
+        private final int[] parts = new int[MOST_PEOPLE * BY_GAIN];
 
         Orders(Line line) {
             this.line = line;
@@ -1320,7 +1321,7 @@ public final class QueuePlaces {
 
         void forget() {
             total = 0;
-            for (int i = 0; i < BY_PEOPLE; i++) {
+            for (int i = 0; i < MOST_PEOPLE; i++) {
                 known[i] = UNKNOWN;
                 possible[i] = 0;
             }
@@ -1330,7 +1331,9 @@ public final class QueuePlaces {
         }
 
         void learn(int i, int got) {
-            known[i & 7] = known[i & 7] == UNKNOWN || known[i & 7] == got ? got : NEVER;
+            if (i >= 0 && i < known.length) {
+                known[i] = known[i] == UNKNOWN || known[i] == got ? got : NEVER;
+            }
         }
 
         /** Tallies every order that begins with these: as many levels as there are people. */
@@ -1349,27 +1352,32 @@ public final class QueuePlaces {
         private void tallyOne(int order) {
             line.serve(order);
             int size = line.crowd.size;
-            for (int i = 0; i < size; i++) {
-                if (known[i & 7] != UNKNOWN && known[i & 7] != line.serving.gainOf(i)) {
+            for (int i = 0; i < size && i < known.length; i++) {
+                if (known[i] != UNKNOWN && known[i] != line.serving.gainOf(i)) {
                     return;
                 }
             }
             total++;
-            for (int i = 0; i < size; i++) {
-                possible[i & 7] |= 1 << Order.whoAt(order, i);
-                parts[(i & 7) * BY_GAIN + (line.serving.gainOf(i) & 3)]++;
+            for (int i = 0; i < size && i < possible.length; i++) {
+                possible[i] |= 1 << Order.whoAt(order, i);
+                int part = i * BY_GAIN + line.serving.gainOf(i);
+                if (part >= 0 && part < parts.length) {
+                    parts[part]++;
+                }
             }
         }
 
         int whoCan(int place) {
-            return possible[place & 7];
+            return place >= 0 && place < possible.length ? possible[place] : 0;
         }
 
         /** Most orders by which one got as many. */
         int greatestPart(int i) {
             int greatest = 0;
-            for (int gain = 0; gain < BY_GAIN; gain++) {
-                greatest = Math.max(greatest, parts[(i & 7) * BY_GAIN + gain]);
+            for (int part = i * BY_GAIN; part < (i + 1) * BY_GAIN; part++) {
+                if (part >= 0 && part < parts.length) {
+                    greatest = Math.max(greatest, parts[part]);
+                }
             }
             return greatest;
         }
