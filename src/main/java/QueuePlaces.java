@@ -5,6 +5,8 @@
 public final class QueuePlaces {
     public static final int BAD = -1, FULL = -2, FINDING = -3, STATE = -4, SPENT = -6, NONE = -9;
 
+    /** What is not refused. */
+    private static final int FINE = 0;
     private static final int NOTHING = 1, BEYOND = 2, UNLIKE = 3, NOUGHT = 4, SIZE = 5;
 
     private static final int ROWS = 6, ROW_SIZE = 40, TEXTS = 4, TEXT_SIZE = 60, KEPT = 3;
@@ -47,25 +49,13 @@ public final class QueuePlaces {
     // ---- 1 rows, texts, lines
 
     public int row(int r, int n) {
-        if (!rows.isNumber(r) || n > ROW_SIZE) {
-            return BAD;
-        }
-        if (n < 0) {
-            return found(SIZE);
-        }
-        rows.fresh(r, n, 0);
-        return n;
+        return anew(rows, r, n, 0);
     }
 
     public int lay(int r, int i, int v) {
-        if (!rows.isNumber(r)) {
-            return BAD;
-        }
-        if (!rows.has(r)) {
-            return found(NOTHING);
-        }
-        if (!rows.hasPlace(r, i)) {
-            return found(BEYOND);
+        int refusal = refusalOfPlace(rows, r, i);
+        if (refusal != FINE) {
+            return refusal;
         }
         int was = rows.get(r, i);
         rows.set(r, i, v);
@@ -73,24 +63,17 @@ public final class QueuePlaces {
     }
 
     public int at(int r, int i) {
-        if (!rows.isNumber(r)) {
-            return BAD;
-        }
-        if (!rows.has(r)) {
-            return found(NOTHING);
-        }
-        if (!rows.hasPlace(r, i)) {
-            return found(BEYOND);
+        int refusal = refusalOfPlace(rows, r, i);
+        if (refusal != FINE) {
+            return refusal;
         }
         return tell(rows.get(r, i));
     }
 
     public int tear(int r) {
-        if (!rows.isNumber(r)) {
-            return BAD;
-        }
-        if (!rows.has(r)) {
-            return found(NOTHING);
+        int refusal = refusalOf(rows, r);
+        if (refusal != FINE) {
+            return refusal;
         }
         rows.drop(r);
         return 1;
@@ -114,11 +97,9 @@ public final class QueuePlaces {
     }
 
     public int mean(int r) {
-        if (!rows.isNumber(r)) {
-            return BAD;
-        }
-        if (!rows.has(r)) {
-            return found(NOTHING);
+        int refusal = refusalOf(rows, r);
+        if (refusal != FINE) {
+            return refusal;
         }
         int size = rows.sizeOf(r);
         if (size <= 0) {
@@ -128,25 +109,13 @@ public final class QueuePlaces {
     }
 
     public int text(int t, int n) {
-        if (!texts.isNumber(t) || n > TEXT_SIZE) {
-            return BAD;
-        }
-        if (n < 0) {
-            return found(SIZE);
-        }
-        texts.fresh(t, n, BLANK);
-        return n;
+        return anew(texts, t, n, BLANK);
     }
 
     public int put(int t, int i, int v) {
-        if (!texts.isNumber(t)) {
-            return BAD;
-        }
-        if (!texts.has(t)) {
-            return found(NOTHING);
-        }
-        if (!texts.hasPlace(t, i)) {
-            return found(BEYOND);
+        int refusal = refusalOfPlace(texts, t, i);
+        if (refusal != FINE) {
+            return refusal;
         }
         int was = texts.get(t, i);
         texts.set(t, i, (byte) v);
@@ -154,21 +123,17 @@ public final class QueuePlaces {
     }
 
     public int fault(int t) {
-        if (!texts.isNumber(t)) {
-            return BAD;
-        }
-        if (!texts.has(t)) {
-            return found(NOTHING);
+        int refusal = refusalOf(texts, t);
+        if (refusal != FINE) {
+            return refusal;
         }
         return reader.read(t);
     }
 
     public int line(int t) {
-        if (!texts.isNumber(t)) {
-            return BAD;
-        }
-        if (!texts.has(t)) {
-            return found(NOTHING);
+        int refusal = refusalOf(texts, t);
+        if (refusal != FINE) {
+            return refusal;
         }
         if (reader.read(t) != NONE) {
             return STATE;
@@ -277,11 +242,9 @@ public final class QueuePlaces {
     }
 
     public int on(int k) {
-        if (!kept.isNumber(k)) {
-            return BAD;
-        }
-        if (!kept.has(k)) {
-            return found(NOTHING);
+        int refusal = refusalOf(kept, k);
+        if (refusal != FINE) {
+            return refusal;
         }
         line.restart();
         int deeds = kept.sizeOf(k);
@@ -360,42 +323,27 @@ public final class QueuePlaces {
     // ---- 5 by what they got
 
     public int lines(int r) {
-        if (!rows.isNumber(r)) {
-            return BAD;
-        }
-        if (line.crowd.size == 0) {
-            return STATE;
-        }
-        int wrong = wrongPairs(r);
-        if (wrong != 0) {
-            return found(wrong);
+        int refusal = line.crowd.size == 0 && rows.isNumber(r) ? STATE : refusalOfPairs(r);
+        if (refusal != FINE) {
+            return refusal;
         }
         tallyOrders(r);
         return tellRatio(orders.total, 1);
     }
 
     public int can(int r, int place) {
-        if (!rows.isNumber(r) || !line.crowd.has(place)) {
-            return BAD;
-        }
-        int wrong = wrongPairs(r);
-        if (wrong != 0) {
-            return found(wrong);
+        int refusal = line.crowd.has(place) ? refusalOfPairs(r) : BAD;
+        if (refusal != FINE) {
+            return refusal;
         }
         tallyOrders(r);
         return orders.whoCan(place);
     }
 
     public int next(int r) {
-        if (!rows.isNumber(r)) {
-            return BAD;
-        }
-        if (line.crowd.size == 0) {
-            return STATE;
-        }
-        int wrong = wrongPairs(r);
-        if (wrong != 0) {
-            return found(wrong);
+        int refusal = line.crowd.size == 0 && rows.isNumber(r) ? STATE : refusalOfPairs(r);
+        if (refusal != FINE) {
+            return refusal;
         }
         tallyOrders(r);
         if (orders.total == 0) {
@@ -567,6 +515,33 @@ public final class QueuePlaces {
         return FINDING;
     }
 
+    /** The refusal of a row that is none, or missing. */
+    private int refusalOf(Shelf shelf, int r) {
+        if (!shelf.isNumber(r)) {
+            return BAD;
+        }
+        return shelf.has(r) ? FINE : found(NOTHING);
+    }
+
+    private int refusalOfPlace(Shelf shelf, int r, int i) {
+        int refusal = refusalOf(shelf, r);
+        if (refusal != FINE) {
+            return refusal;
+        }
+        return shelf.hasPlace(r, i) ? FINE : found(BEYOND);
+    }
+
+    private int anew(Shelf shelf, int r, int n, int v) {
+        if (!shelf.isNumber(r) || n > shelf.most) {
+            return BAD;
+        }
+        if (n < 0) {
+            return found(SIZE);
+        }
+        shelf.fresh(r, n, v);
+        return n;
+    }
+
     private int tell(int v) {
         told = v;
         return 1;
@@ -642,22 +617,23 @@ public final class QueuePlaces {
         }
     }
 
-    /** The finding on a row of pairs (one, how many loaves it got), 0 where it is as due. */
-    private int wrongPairs(int r) {
-        if (!rows.has(r)) {
-            return NOTHING;
+    /** The refusal of a row that is not of pairs (one, how many loaves it got). */
+    private int refusalOfPairs(int r) {
+        int refusal = refusalOf(rows, r);
+        if (refusal != FINE) {
+            return refusal;
         }
         int size = rows.sizeOf(r);
         if (size % 2 != 0 || size > 2 * MOST_PAIRS) {
-            return SIZE;
+            return found(SIZE);
         }
         for (int i = 0; i < size; i += 2) {
             int got = rows.get(r, i + 1);
             if (!line.crowd.has(rows.get(r, i)) || got < 0 || got > MOST_GOT) {
-                return UNLIKE;
+                return found(UNLIKE);
             }
         }
-        return 0;
+        return FINE;
     }
 
     private void tallyOrders(int r) {
@@ -673,7 +649,7 @@ public final class QueuePlaces {
     private static final class Shelf {
         private static final int MISSING = -1;
 
-        private final int most;
+        final int most;
         private final int[] sizes;
         private final int[] places;
 
