@@ -2,6 +2,7 @@
 final class Check {
     private static int wrong = 0;
     private static int made = 0;
+    private static int madeAhead = 0;
     private static String where = "";
 
     private Check() {
@@ -9,6 +10,13 @@ final class Check {
 
     static void at(String place) {
         where = place;
+    }
+
+    /** Begins a test of its own; the one ahead of it must have looked at something beside its own words. */
+    static void begin(String test) {
+        that("a test without answers", where.isEmpty() || made > madeAhead + 1);
+        where = test;
+        madeAhead = made;
     }
 
     static void due(String call, long got, long want) {
