@@ -382,11 +382,22 @@ final class AsideSentences extends Sentences {
         row(0);
         // the general and the soldier get it by turns, the person never
         nextIs(0, 3, 0);
+        // as many as one can get, and the last one of as many as there can be
+        again("q20g9");
+        row(0);
+        nextIs(0, 1, 0);
+        again("q20p9p9p9p9p9g9");
+        row(0);
+        nextIs(0, 720, 0);
+        again("q02g9g9g9g9g9p9");
+        row(0);
+        // the first general gets both
+        nextIs(0, 576, 0);
         // each by its own parts, not by its neighbour's
         again("q01p9c9p9");
         row(0);
         nextIs(0, 3, 0);
-        again("q01c9p9p9");
+        again("q04g9p9p9");
         row(0);
         nextIs(1, 3, 0);
         again("q02u9g9");

@@ -160,12 +160,15 @@ final class RefusalSentences extends Sentences {
         } else if (state == 2) {
             line("q05p1o2");
             ticketsUpTo(11);
+            call("keep", 0);
             deedsUpTo(40);
             call("odds", 0, 5);
         } else if (state == 3) {
             line("q00p9g9c9");
             row(0, 0, 1);
             call("keep", 2);
+            call("ticket", 2, 0);
+            call("keep", 0);
         }
     }
 
