@@ -642,7 +642,7 @@ public final class QueuePlaces {
         for (int i = 0; i < size; i += 2) {
             orders.learn(rows.get(r, i), rows.get(r, i + 1));
         }
-        orders.extend(0, 0, 0);
+        Orders.extend(orders, 0, 0, 0);
     }
 
     /** Numbered rows, each of a size of its own, or missing. */
@@ -684,12 +684,14 @@ public final class QueuePlaces {
         }
 
         int get(int r, int i) {
-            return hasPlace(r, i) ? places[r * most + i] : 0;
+            int slot = r * most + i;
+            return hasPlace(r, i) && slot >= 0 && slot < places.length ? places[slot] : 0;
         }
 
         void set(int r, int i, int v) {
-            if (hasPlace(r, i)) {
-                places[r * most + i] = v;
+            int slot = r * most + i;
+            if (hasPlace(r, i) && slot >= 0 && slot < places.length) {
+                places[slot] = v;
             }
         }
 
@@ -697,7 +699,7 @@ public final class QueuePlaces {
             if (isNumber(r) && n >= 0 && n <= most) {
                 sizes[r] = n;
                 for (int i = 0; i < n; i++) {
-                    places[r * most + i] = v;
+                    set(r, i, v);
                 }
             }
         }
@@ -709,8 +711,13 @@ public final class QueuePlaces {
         }
 
         void bring(int r, int i, int to, int j, int n) {
-            if (hasSpan(r, i, n) && hasSpan(to, j, n)) {
-                System.arraycopy(places, r * most + i, places, to * most + j, n);
+            if (!hasSpan(r, i, n) || !hasSpan(to, j, n)) {
+                return;
+            }
+            int from = r * most + i;
+            int into = to * most + j;
+            if (Math.min(from, into) >= 0 && Math.max(from, into) <= places.length - n) {
+                System.arraycopy(places, from, places, into, n);
             }
         }
 
@@ -1313,14 +1320,15 @@ public final class QueuePlaces {
         }
 
         /** Tallies every order that begins with these: as many levels as there are people. */
-        private void extend(int order, int place, int stand) {
-            if (place >= line.crowd.size) {
-                tallyOne(order);
+        private static void extend(Orders orders, int order, int place, int stand) {
+            int size = orders.line.crowd.size;
+            if (place >= size) {
+                orders.tallyOne(order);
                 return;
             }
-            for (int i = 0; i < line.crowd.size; i++) {
+            for (int i = 0; i < size; i++) {
                 if ((stand >> i & 1) == 0) {
-                    extend(Order.with(order, place, i), place + 1, stand | 1 << i);
+                    extend(orders, Order.with(order, place, i), place + 1, stand | 1 << i);
                 }
             }
         }
@@ -1372,25 +1380,30 @@ public final class QueuePlaces {
         int outcome(int i, int j, int times) {
             first = i;
             second = j;
-            return play(line.order, 2 * times);
+            return play(this, line.order, 2 * times);
         }
 
         /** By how many loaves the first one ends ahead, so many turns before the end: as many levels as turns. */
-        private int play(int order, int turns) {
+        private static int play(Match match, int order, int turns) {
             if (turns <= 0) {
-                line.serve(order);
-                return line.serving.gainOf(first) - line.serving.gainOf(second);
+                return match.leadBy(order);
             }
             boolean firsts = turns % 2 == 0;
-            int mover = firsts ? first : second;
+            int mover = firsts ? match.first : match.second;
+            int size = match.line.crowd.size;
             int chosen = 0;
-            for (int place = 0; place < line.crowd.size; place++) {
-                int result = play(Order.by(order, line.crowd.size, 8 * mover + place), turns - 1);
+            for (int place = 0; place < size; place++) {
+                int result = play(match, Order.by(order, size, 8 * mover + place), turns - 1);
                 if (place == 0 || (firsts ? result > chosen : result < chosen)) {
                     chosen = result;
                 }
             }
             return chosen;
+        }
+
+        private int leadBy(int order) {
+            line.serve(order);
+            return line.serving.gainOf(first) - line.serving.gainOf(second);
         }
     }
 
