@@ -209,13 +209,17 @@ final class RowSentences extends Sentences {
         answers(1, "copy", 0, 2, 5, 1, 0);
         holds(5, 6, 4, 5);
         again();
-        call("row", 2, 40);
-        call("row", 3, 40);
-        tells(0, "lay", 2, 0, 7);
-        tells(0, "lay", 2, 39, 8);
-        answers(1, "copy", 2, 0, 3, 0, 40);
-        tells(7, "at", 3, 0);
-        tells(8, "at", 3, 39);
+        for (int r = 0; r < 6; r++) {
+            call("row", r, 40);
+        }
+        for (int r = 0; r < 6; r++) {
+            int to = (r + 1) % 6;
+            call("lay", r, 0, 7 + r);
+            call("lay", r, 39, 8 + r);
+            answers(1, "copy", r, 0, to, 0, 40);
+            tells(7 + r, "at", to, 0);
+            tells(8 + r, "at", to, 39);
+        }
         promise(6, "BAD; SIZE: n below 0; NOTHING: either;");
         row(0, 1, 2, 3);
         row(5, 4, 5);
